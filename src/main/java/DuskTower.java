@@ -151,11 +151,11 @@ public final class DuskTower {
         if (taped + 20 > MOST_TAPE) {
             return NONE;
         }
-        record(a);
-        record(b);
-        record(c);
-        record(d);
-        record(e);
+        punch(a);
+        punch(b);
+        punch(c);
+        punch(d);
+        punch(e);
         return taped;
     }
 
@@ -199,11 +199,10 @@ public final class DuskTower {
     }
 
     public int down(int i) {
-        trial.become(world.tower);
-        int standing = trial.count - trial.inYard();
-        if (i < 0 || i >= standing) {
+        if (i < 0 || i >= MOST_BLOCKS) {
             return NONE;
         }
+        trial.become(world.tower);
         int taken = NONE;
         for (int turn = 0; turn <= i; turn++) {
             taken = trial.leastFree();
@@ -311,7 +310,7 @@ public final class DuskTower {
         tooLoaded = block;
     }
 
-    private void record(int number) {
+    private void punch(int number) {
         for (int shift = 24; shift >= 0; shift -= 8) {
             if (taped < tape.length) {
                 tape[taped] = (byte) (number >> shift);
@@ -802,6 +801,7 @@ public final class DuskTower {
         private static final int TOO_MANY = 3;
 
         private final int[] codes = new int[MOST_TAPE + 1];
+        // Where each token stands, for the faults of what was scanned here; a vow that was taken over has none.
         private final int[] starts = new int[MOST_TAPE + 1];
         private int size = 0;
         private int at = 0;
@@ -819,7 +819,6 @@ public final class DuskTower {
             size = other.size;
             lines = other.lines;
             System.arraycopy(other.codes, 0, codes, 0, codes.length);
-            System.arraycopy(other.starts, 0, starts, 0, starts.length);
         }
 
         void scan(byte[] text, int length) {
@@ -1326,19 +1325,26 @@ public final class DuskTower {
          */
         private boolean isHopeful(Tower tower, int done) {
             int todo = carries - done;
+            if (goal - tower.tallest() > todo) {
+                return false;
+            }
             int bare = 0;
             for (int i = 0; i < done && i < MOST; i++) {
                 if (tower.isBare(blocks[i])) {
                     bare++;
                 }
             }
+            return bare - 1 <= todo * (longestInYard(tower) - 1);
+        }
+
+        private static int longestInYard(Tower tower) {
             int longest = 1;
             for (int block = 0; block < tower.count; block++) {
                 if (tower.places[block] != NONE) {
                     longest = Math.max(longest, tower.lengths[block]);
                 }
             }
-            return goal - tower.tallest() <= todo && bare - 1 <= todo * (longest - 1);
+            return longest;
         }
     }
 
