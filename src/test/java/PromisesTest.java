@@ -1,9 +1,5 @@
 /** Each promise by calls whose answers were worked out by hand from the document: ordinary ones, edges, wrong ones. */
-public final class PromisesTest {
-    private static final int NONE = DuskTower.NONE;
-    private static int wrong = 0;
-    private static int promise = 0;
-
+public final class PromisesTest extends Check {
     private PromisesTest() {
     }
 
@@ -60,63 +56,11 @@ public final class PromisesTest {
         image();
         promise(26);
         look();
-        System.out.println(wrong == 0 ? "all promises hold" : wrong + " answers are not as due");
-        System.exit(wrong == 0 ? 0 : 1);
+        finish("all promises hold");
     }
 
     private static void promise(int n) {
-        promise = n;
-    }
-
-    private static void due(long want, long got) {
-        if (got != want) {
-            wrong++;
-            StackTraceElement at = null;
-            for (StackTraceElement e : new Throwable().getStackTrace()) {
-                if (at == null && !e.getMethodName().equals("due")) {
-                    at = e;
-                }
-            }
-            System.out.println("promise " + promise + ", line " + (at == null ? 0 : at.getLineNumber()) + ": answered "
-                    + got + ", due is " + want);
-        }
-    }
-
-    private static void due(boolean want, boolean got) {
-        due(want ? 1 : 0, got ? 1 : 0);
-    }
-
-    private static int word(String text, int at) {
-        int word = 0;
-        for (int i = at; i < at + 4; i++) {
-            word = word << 8 | (i < text.length() ? text.charAt(i) & 255 : 'x');
-        }
-        return word;
-    }
-
-    private static void fill(DuskTower x, String text) {
-        for (int i = 0; i < text.length(); i += 20) {
-            x.feed(word(text, i), word(text, i + 4), word(text, i + 8), word(text, i + 12), word(text, i + 16));
-        }
-        x.end(text.length());
-    }
-
-    private static int vow(DuskTower x, String text) {
-        fill(x, text);
-        return x.text();
-    }
-
-    /** What noon() answers with nothing else told than this vow. */
-    private static int atNoon(String text) {
-        DuskTower x = new DuskTower();
-        return vow(x, text) == NONE ? -99 : x.noon();
-    }
-
-    private static void dueFault(int kind, int place, String text) {
-        DuskTower x = new DuskTower();
-        due(kind == 0 ? 1 : 0, vow(x, text) == NONE ? 0 : 1);
-        due(kind, x.fault(0));
-        due(place, x.fault(1));
+        about("promise " + n);
     }
 
     // ---- 1 .. 3 ----
@@ -124,10 +68,7 @@ public final class PromisesTest {
     private static void newObject() {
         DuskTower x = new DuskTower();
         due(-1, DuskTower.NONE);
-        int[] looks = {5, 0, 0, 0, 0, 0, 0, 0, 0, 0, 0};
-        for (int i = 0; i < looks.length; i++) {
-            due(looks[i], x.look(i));
-        }
+        dueLooks(x, 5, 0, 0, 0, 0, 0, 0, 0, 0, 0, 0);
         due(0, x.height(4));
         due(-2, x.height(5));
         due(-2, x.of(0, 0));
@@ -177,10 +118,7 @@ public final class PromisesTest {
         due(false, x.columns(0));
         due(2, x.look(1));
         due(true, x.columns(8));
-        int[] looks = {8, 0, 0, 0, 0, 0, 0, 0, 0, 0, 0};
-        for (int i = 0; i < looks.length; i++) {
-            due(looks[i], x.look(i));
-        }
+        dueLooks(x, 8, 0, 0, 0, 0, 0, 0, 0, 0, 0, 0);
         due(-2, x.of(0, 0));
         due(0, x.worth(1, 1, 0, 0));
         due(10, x.bet(1, 1));
@@ -568,7 +506,7 @@ public final class PromisesTest {
 
     private static void feed() {
         DuskTower x = new DuskTower();
-        due(20, x.feed(word("noon", 0), word(" 1=1", 0), word(";   ", 0), word("    ", 0), word("    ", 0)));
+        due(20, feed(x, "noon 1=1;" + " ".repeat(11), 0));
         due(1, x.text());
         for (int i = 1; i <= 20; i++) {
             due(20 * i, x.feed(0x20202020, 0x0a0a0a0a, 0x20202020, 0x20202020, 0x20202020));
@@ -1165,10 +1103,7 @@ public final class PromisesTest {
             due(true, x.image(false));
             due(1, x.refused(0));
             due(true, x.end(6));
-            int[] looks = {4, 2, 1, 0, 3, 26, 1, 1, 2, 0, 2};
-            for (int i = 0; i < looks.length; i++) {
-                due(looks[i], x.look(i));
-            }
+            dueLooks(x, 4, 2, 1, 0, 3, 26, 1, 1, 2, 0, 2);
             due(-2, x.noon());
             due(2, x.of(0, 5));
             due(3, x.of(0, 9));
@@ -1205,9 +1140,6 @@ public final class PromisesTest {
         x.put(1, 0);
         x.noon();
         x.take(1, 10);
-        int[] looks = {6, 3, 1, 1, 3, 3, 2, 2, 1, 1, 3};
-        for (int i = 0; i < looks.length; i++) {
-            due(looks[i], x.look(i));
-        }
+        dueLooks(x, 6, 3, 1, 1, 3, 3, 2, 2, 1, 1, 3);
     }
 }
