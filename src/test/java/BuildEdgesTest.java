@@ -595,6 +595,7 @@ public final class BuildEdgesTest extends Check {
         x.put(0, 0);
         x.take(0, 0);
         due(0, x.refused(0));
+        due(NONE, x.refused(1));
         says("(NONE). NONE for another what.");
         x.put(5, 5);
         due(NONE, x.refused(-1));

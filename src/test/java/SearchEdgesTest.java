@@ -9,6 +9,7 @@ public final class SearchEdgesTest extends Check {
     public static void main(String[] args) {
         planRanges();
         planFewest();
+        planBeside();
         planLeastCost();
         planFirst();
         planAsked();
@@ -111,6 +112,40 @@ public final class SearchEdgesTest extends Check {
         duePlan(none, 2, NONE, NONE);
     }
 
+    private static void planBeside() {
+        says("the fewest CARRIES from THE YARD (5 at most, none REFUSED)");
+        // one of length 3 on two pillars: 5 to the left, which bears 5, and 4 to the right
+        DuskTower x = new DuskTower();
+        x.columns(3);
+        x.block(3, 9, 0, 0, 10);
+        x.block(1, 9, 5, 0, 10);
+        x.block(1, 9, 4, 0, 12);
+        duePlan(x, 2, 3, 1, 1, 0, 2, 2, 0, 0);
+        x.put(2, 2);
+        duePlan(x, 2, 2, 1, 1, 0, 0, 0);
+        // all five, as pillars bear 4 each and no pillar lies on another
+        DuskTower y = new DuskTower();
+        y.columns(3);
+        y.block(3, 9, 3, 0, 10);
+        for (int i = 0; i < 3; i++) {
+            y.block(1, 9, 4, 0, 10 + i);
+        }
+        y.block(1, 3, 0, 0, 12);
+        duePlan(y, 2, 2, 1, 0, 0, 4, 2);
+        duePlan(y, 3, 5, 3, 1, 0, 2, 1, 3, 2, 0, 0, 4, 2);
+        duePlan(y, 4, NONE, NONE);
+        says("a column by which it would reach beyond");
+        // the nearest column would be beyond
+        for (int length = 1; length <= 3; length++) {
+            DuskTower z = new DuskTower();
+            z.block(length, 1, 9, 0, 0);
+            duePlan(z, 1, 1, 10, 0, 0);
+            z.put(0, 0);
+            z.take(0, 59);
+            duePlan(z, 1, 1, 44 + length, 0, 5 - length);
+        }
+    }
+
     private static void planLeastCost() {
         says("of several the least COST together");
         DuskTower x = new DuskTower();
@@ -141,6 +176,13 @@ public final class SearchEdgesTest extends Check {
         y.put(3, 0);
         y.put(4, 1);
         duePlan(y, 3, 2, 4, 0, 0, 2, 0);
+        // two pillars that can come in either order, and one on both
+        DuskTower beside = new DuskTower();
+        beside.columns(3);
+        beside.block(1, 9, 2, 0, 11);
+        beside.block(2, 4, 0, 0, 10);
+        beside.block(1, 9, 2, 0, 12);
+        duePlan(beside, 2, 3, 2, 0, 1, 2, 2, 1, 1);
         // a lesser block goes ahead of a lesser column
         DuskTower z = new DuskTower();
         z.block(1, 1, 9, 0, 14);

@@ -233,6 +233,9 @@ public final class StateEdgesTest extends Check {
             change(x);
             if (turn == 1) {
                 x.columns(2);
+                x.hand(1);
+                x.block(1, 1, 1, 0, 1);
+                x.put(0, 0);
             }
             due(true, x.image(false));
             dueSame(was, x);
@@ -245,6 +248,9 @@ public final class StateEdgesTest extends Check {
         due(2, x.look(7));
         due(98, x.of(1, 2));
         due(NONE, x.of(0, 9));
+        due(1, x.of(1, 9));
+        due(true, x.quarrel(0, 1, false));
+        due(3, x.of(0, 9));
         due(3, x.block(1, 1, 1, 0, 10));
     }
 

@@ -407,7 +407,8 @@ public final class VowEdgesTest extends Check {
 
     private static void words() {
         says("letters as many as stand together are KEYWORDS (those told here) or none");
-        for (String bad : new String[] {"n", "noo", "noonn", "noondusk", "Noon", "NOON", "nOon", "heights", "x", "z", "A",
+        for (String bad : new String[] {"n", "noo", "noonn", "noona", "noonz", "noonA", "noonZ",
+            "Anoon", "noondusk", "Noon", "NOON", "nOon", "heights", "x", "z", "A",
             "Z", "seen", "not", "or", "and"}) {
             dueFault(1, 0, bad + " 1=1;");
         }
