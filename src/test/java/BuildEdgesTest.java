@@ -24,6 +24,7 @@ public final class BuildEdgesTest extends Check {
         tooMuch();
         nothingDone();
         takes();
+        carries();
         costs();
         refusedAsked();
         ofAsked();
@@ -37,6 +38,7 @@ public final class BuildEdgesTest extends Check {
         DuskTower x = new DuskTower();
         dueLooks(x, 5, 0, 0, 0, 0, 0, 0, 0, 0, 0, 0);
         due(NONE - 1, x.of(0, 0));
+        says("5 at first");
         due(0, x.height(4));
         due(NONE - 1, x.height(5));
         says("`NONE = -1`: None.".replace("`", ""));
@@ -533,6 +535,31 @@ public final class BuildEdgesTest extends Check {
         due(false, x.take(4, 10));
         due(true, x.take(0, 10));
         due(true, x.take(4, 10));
+    }
+
+    private static void carries() {
+        says("A CARRY onto a column: the LEVEL; NONE if it is REFUSED.");
+        DuskTower x = new DuskTower();
+        x.block(1, 1, 1, 0, 10);
+        x.block(1, 1, 1, 0, 10);
+        x.block(1, 1, 1, 0, 10);
+        x.block(2, 1, 1, 0, 10);
+        due(0, x.put(0, 0));
+        due(1, x.put(1, 0));
+        due(NONE, x.put(2, 0));
+        due(NONE, x.put(3, 0));
+        due(NONE, x.put(4, 0));
+        due(0, x.put(2, 1));
+        due(3, x.look(4));
+        says("A CARRY to a PLACE: true; false if it is REFUSED.");
+        due(false, x.take(0, 10));
+        due(false, x.take(3, 10));
+        due(false, x.take(4, 10));
+        due(false, x.take(1, 60));
+        due(true, x.take(1, 10));
+        due(true, x.take(0, 10));
+        due(false, x.take(0, 10));
+        due(5, x.look(4));
     }
 
     private static void costs() {

@@ -101,6 +101,18 @@ public final class SearchEdgesTest extends Check {
         // so 2 and then 1 on both would be too heavy, too: block 2 goes below, 1 lies on 0 and 2
         duePlan(z, 2, 2, 2, 2, 1, 1, 0);
         duePlan(z, 3, NONE, NONE);
+        says("behind which THE TOWER has that HEIGHT or more");
+        z.columns(5);
+        for (int i = 0; i < 4; i++) {
+            plain(z, 1);
+        }
+        for (int i = 0; i < 3; i++) {
+            z.put(i, 2);
+        }
+        for (int height = 1; height <= 3; height++) {
+            duePlan(z, height, 0, 0);
+        }
+        duePlan(z, 4, 1, 5, 3, 2);
         says("NONE without; 0 CARRIES if it has it already");
         due(NONE, new DuskTower().plan(1, 0));
         due(NONE, new DuskTower().plan(1, 1));
@@ -368,7 +380,8 @@ public final class SearchEdgesTest extends Check {
             due(columns[b], x.which(15, 10 + b));
             due(levels[b], x.which(15, 30 + b));
         }
-        // either 0 or 1 may lie on 2: it is the least block
+        says("BLOCK for BLOCK at a column and LEVEL");
+        // either 0 or 1 may lie on 2, which are two towers, though the blocks are alike
         DuskTower y = new DuskTower();
         y.block(1, 1, 9, 0, 12);
         y.block(1, 1, 9, 0, 12);
@@ -600,6 +613,12 @@ public final class SearchEdgesTest extends Check {
             due(90, y.worth(n, n - 1, 1, 0));
             due(1, y.worth(n, n - 1, 1, 1));
         }
+        says("At each HOUR h of n (1 .. 8), with a HEIGHT: to STOP is worth PAY");
+        for (int bad : new int[] {-1, 0, 9}) {
+            due(NONE, y.worth(bad, 0, 2, 0));
+        }
+        due(90, y.worth(1, 0, 2, 0));
+        due(900000000, y.worth(8, 0, 2, 0));
         says("WORTH by the best: as a fraction of 10 to the n");
         due(900, y.worth(2, 0, 0, 0));
         due(900000000, y.worth(8, 0, 0, 0));

@@ -133,6 +133,9 @@ public final class VowEdgesTest extends Check {
     }
 
     private static void newDay() {
+        says("A DAY (0 at first): CARRIES and COST of the day so far");
+        due(0, new DuskTower().look(3));
+        due(NONE, atNoon("noon day=0 and carries=0 and cost=0;"));
         says("CARRIES, COST, NOON are 0; DAY is one more");
         DuskTower x = withPlain(2);
         x.put(0, 1);
