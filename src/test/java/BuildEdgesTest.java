@@ -439,6 +439,13 @@ public final class BuildEdgesTest extends Check {
         due(NONE, x.put(1, 0));
         due(2, x.refused(0));
         due(NONE, x.refused(1));
+        // also behind a carry of which a block with too much was told
+        x.block(1, 1, 0, 0, 10);
+        due(NONE, x.put(2, 0));
+        due(0, x.refused(1));
+        due(NONE, x.put(1, 0));
+        due(2, x.refused(0));
+        due(NONE, x.refused(1));
         // what can't be comes ahead
         due(NONE, x.put(1, 4));
         due(1, x.refused(0));

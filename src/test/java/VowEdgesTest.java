@@ -22,6 +22,7 @@ public final class VowEdgesTest extends Check {
         brokenLines();
         facts();
         holyTop();
+        holyInYard();
         claims();
         words();
         numbers();
@@ -362,6 +363,21 @@ public final class VowEdgesTest extends Check {
         x.put(0, 1);
         x.put(3, 1);
         due(0, x.dusk());
+    }
+
+    private static void holyInYard() {
+        says("holy: 1, if the BLOCK at the greatest LEVEL, of several that with the least number, is HOLY, else 0");
+        DuskTower x = new DuskTower();
+        x.block(1, 1, 9, 4, 10);
+        x.block(1, 1, 9, 0, 10);
+        vow(x, "dusk holy=0;");
+        // an empty tower, and one of others, with the holy one in the yard
+        due(NONE, x.dusk());
+        x.put(1, 0);
+        due(NONE, x.dusk());
+        x.put(0, 0);
+        due(0, x.dusk());
+        due(NONE, x.dusk());
     }
 
     private static void claims() {
