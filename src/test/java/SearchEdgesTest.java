@@ -135,6 +135,12 @@ public final class SearchEdgesTest extends Check {
         duePlan(x, 2, 3, 1, 1, 0, 2, 2, 0, 0);
         x.put(2, 2);
         duePlan(x, 2, 2, 1, 1, 0, 0, 0);
+        // the same, where the long one lies at the least place of all
+        x.columns(3);
+        x.block(3, 9, 0, 0, 0);
+        x.block(1, 9, 5, 0, 10);
+        x.block(1, 9, 4, 0, 12);
+        duePlan(x, 2, 3, 11, 1, 0, 2, 2, 0, 0);
         // all five, as pillars bear 4 each and no pillar lies on another
         DuskTower y = new DuskTower();
         y.columns(3);
